@@ -1,0 +1,92 @@
+import java.util.Objects;
+
+/** Counts right and wrong answers of one test class. */
+final class Check {
+    /** A call of the class under test. */
+    interface Call {
+        Object run();
+    }
+
+    private final String name;
+    private int right = 0;
+    private int wrong = 0;
+
+    Check(String name) {
+        this.name = name;
+    }
+
+    /** Numbers of different types are told apart, so that an int is never taken for a double. */
+    void due(String what, Object want, Object got) {
+        if (Objects.equals(want, got)) {
+            right++;
+        } else {
+            wrong++;
+            System.out.println(name + ": " + what + " answered " + got + ", due is " + want);
+        }
+    }
+
+    void index(String what, Call call) {
+        due(what, "throws IndexOutOfBoundsException", outcome(call));
+    }
+
+    void argument(String what, Call call) {
+        due(what, "throws IllegalArgumentException", outcome(call));
+    }
+
+    void state(String what, Call call) {
+        due(what, "throws IllegalStateException", outcome(call));
+    }
+
+    /** The answer of a call, or the exact class of what it throws: a subclass is what the machine throws. */
+    static Object outcome(Call call) {
+        try {
+            return call.run();
+        } catch (RuntimeException e) {
+            return "throws " + e.getClass().getSimpleName();
+        }
+    }
+
+    void end() {
+        System.out.println(name + ": " + right + " right, " + wrong + " wrong");
+        if (wrong > 0 || right == 0) {
+            System.exit(1);
+        }
+    }
+
+    /** Appends the bytes of a text to the buffer, with spaces behind it up to a whole feed. */
+    static void feed(AdMarketplace x, String text) {
+        for (int i = 0; i < text.length(); i += 20) {
+            x.feed(four(text, i), four(text, i + 4), four(text, i + 8), four(text, i + 12), four(text, i + 16));
+        }
+    }
+
+    private static int four(String text, int from) {
+        int word = 0;
+        for (int i = from; i < from + 4; i++) {
+            word = word << 8 | (i < text.length() ? text.charAt(i) & 255 : ' ');
+        }
+        return word;
+    }
+
+    static int load(AdMarketplace x, String text) {
+        feed(x, text);
+        return x.load(text.length());
+    }
+
+    static AdMarketplace open(String text) {
+        AdMarketplace x = new AdMarketplace();
+        if (load(x, text) < 0) {
+            throw new AssertionError("a test's text is not legal: " + text + " (" + x.errorKind() + " at " + x.errorPosition() + ")");
+        }
+        return x;
+    }
+
+    /** All characters of the output. */
+    static String output(AdMarketplace x, int length) {
+        StringBuilder all = new StringBuilder();
+        for (int i = 0; i < length; i++) {
+            all.append(x.written(i));
+        }
+        return all.toString();
+    }
+}
