@@ -1117,7 +1117,8 @@ public final class AdMarketplace {
         final int[] firsts = new int[CONVERSION_LIMIT];
         final int[] lasts = new int[CONVERSION_LIMIT];
         final int[] totals = new int[CONVERSION_LIMIT];
-        private final int[][] shares = new int[CONVERSION_LIMIT][CAMPAIGN_LIMIT];
+        /** For each conversion as many places as there may be campaigns. */
+        private final int[] shares = new int[CONVERSION_LIMIT * CAMPAIGN_LIMIT];
 
         void begin(int at, int value) {
             values[at] = value;
@@ -1125,7 +1126,7 @@ public final class AdMarketplace {
             lasts[at] = NONE;
             totals[at] = 0;
             for (int i = 0; i < CAMPAIGN_LIMIT; i++) {
-                shares[at][i] = 0;
+                shares[at * CAMPAIGN_LIMIT + i] = 0;
             }
         }
 
@@ -1135,15 +1136,15 @@ public final class AdMarketplace {
             }
             lasts[at] = campaign;
             totals[at]++;
-            shares[at][campaign]++;
+            shares[at * CAMPAIGN_LIMIT + campaign]++;
         }
 
         double creditOf(int at, int campaign, int model) {
             if (model == MODEL_EVEN) {
-                return quotient(values[at] * shares[at][campaign], totals[at]);
+                return quotient(values[at] * shares[at * CAMPAIGN_LIMIT + campaign], totals[at]);
             }
             int holder = model == MODEL_FIRST ? firsts[at] : lasts[at];
-            return holder == campaign ? values[at] : 0.0;
+            return holder == campaign ? (double) values[at] : 0.0;
         }
     }
 

@@ -95,6 +95,8 @@ final class ForecastTest {
         CHECK.due("the mode stays strict", 2, y.mode(0));
         y.pause(0);
         CHECK.due("never shown: the smallest mode", 0, y.bestMode(0, 0, 1, 60));
+        AdMarketplace z = Check.open("day 7;tag t 1;campaign a 9 24 9 1 any;campaign b 8 9 9 1 any;");
+        CHECK.due("two impressions fast, three even, five strict", 2, z.bestMode(0, 0, 1, 7));
         multiplierIsSet();
     }
 
