@@ -1366,30 +1366,27 @@ public final class AdMarketplace {
 
         /**
          * As long as the floor leaves the same campaigns ranked, a greater one lowers no price: the sum is greatest at
-         * the bids themselves. The smallest floor with that sum lies between the best bid and the next smaller one.
+         * one of the effective bids. The smallest such bid is found first, then how far the floor can fall from there.
          */
         int mostEarningFloor(int user, int tag, int slots) {
             rank(user, tag, 0);
             int best = 0;
-            int bestLow = 0;
-            int bestHigh = 0;
-            int low = 0;
+            int enough = 0;
             for (int place = contenders - 1; place >= 0; place--) {
-                int high = paced[order[place]];
-                int sum = earningsAt(slots, high);
+                int floor = paced[order[place]];
+                int sum = earningsAt(slots, floor);
                 if (sum > best) {
                     best = sum;
-                    bestLow = low;
-                    bestHigh = high;
+                    enough = floor;
                 }
-                low = high + 1;
             }
-            return leastFloorEarning(best, slots, bestLow, bestHigh);
+            return leastFloorEarning(best, slots, enough);
         }
 
-        private int leastFloorEarning(int sum, int slots, int low, int high) {
-            int least = low;
-            int greatest = high;
+        /** Of the floors up to the given one, which earns the sum, those that earn it too are the greatest. */
+        private int leastFloorEarning(int sum, int slots, int enough) {
+            int least = 0;
+            int greatest = enough;
             for (int i = 0; i < HALVINGS && least < greatest; i++) {
                 int middle = (least + greatest) / 2;
                 if (earningsAt(slots, middle) >= sum) {

@@ -8,6 +8,7 @@ final class TextTest {
         newObject();
         feed();
         load();
+        loadAgain();
         badLoadKeepsEverything();
         legalTexts();
         tokens();
@@ -61,7 +62,7 @@ final class TextTest {
     /** Promise 3, with 4 and 5. */
     private static void load() {
         AdMarketplace x = new AdMarketplace();
-        Check.feed(x, "tag t 3;" + CAMPAIGN);
+        Check.feed(x, "tag t 0;" + CAMPAIGN);
         CHECK.argument("load(-1)", () -> x.load(-1));
         CHECK.argument("load(41)", () -> x.load(41));
         CHECK.argument("load of the smallest number", () -> x.load(Integer.MIN_VALUE));
@@ -70,7 +71,7 @@ final class TextTest {
         CHECK.due("tags", 1, x.tags());
         CHECK.argument("load empties the buffer", () -> x.load(1));
         CHECK.due("pass", 7, x.pass(7));
-        x.request(0, 0, 1);
+        CHECK.due("request", 1, x.request(0, 0, 1));
         x.convert(0, 5);
         x.pause(0);
         Check.feed(x, "tag t 3;" + CAMPAIGN);
@@ -87,6 +88,31 @@ final class TextTest {
         CHECK.due("a loaded campaign is not paused", 0, x.refusal(0, 0, 0) == 1 ? 1 : 0);
         CHECK.due("a loaded campaign has spent nothing", 0, x.spent(0));
         CHECK.due("a loaded campaign has the multiplier 100", 100, x.multiplier(0));
+    }
+
+    /** Nothing of an earlier text is left, whether it was loaded once, twice or three times before. */
+    private static void loadAgain() {
+        String rich = "day 7;attribute 2;slots 50 50;tag t 5;" + TWO + "pace a strict;pace b even;" + "apart a b;".repeat(8);
+        String plain = "slots 50 50;tag u 0;campaign x 9 900 9 9 any;campaign y 8 900 9 9 any;";
+        AdMarketplace x = new AdMarketplace();
+        for (int i = 0; i < 4; i++) {
+            CHECK.due("a rich text", 2, Check.load(x, rich));
+            CHECK.due("a rich text: mode", 2, x.mode(0));
+            CHECK.due("a rich text: plan", 0, x.plan(0));
+            CHECK.due("a plain text", 2, Check.load(x, plain));
+            CHECK.due("a plain text: mode", 0, x.mode(0));
+            CHECK.due("a plain text: mode", 0, x.mode(1));
+            CHECK.due("a plain text: plan of a day of 100 ticks", 9, x.plan(0));
+            CHECK.due("a plain text: nobody is kept apart", 2, x.request(0, 0, 2));
+            x.pass(50);
+            CHECK.due("a plain text: the attribution window is 50 again", 1, x.convert(0, 5));
+            x.setMode(1, 2);
+            x.pause(1);
+            if (i % 2 == 0) {
+                CHECK.due("an empty text", 0, x.load(0));
+                CHECK.due("an empty text: slots", 1, x.slots());
+            }
+        }
     }
 
     private static void badLoadKeepsEverything() {
