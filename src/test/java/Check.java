@@ -8,6 +8,8 @@ final class Check {
     }
 
     private final String name;
+    /** The sentence of the document that the answers are about. */
+    private String quoted = "";
     private int right = 0;
     private int wrong = 0;
 
@@ -21,8 +23,29 @@ final class Check {
             right++;
         } else {
             wrong++;
-            System.out.println(name + ": " + what + " answered " + got + ", due is " + want);
+            System.out.println(name + ": " + quoted + what + " answered " + got + ", due is " + want);
         }
+    }
+
+    /** The answers from here on are what this sentence of the document asks for; it must stand there as it is quoted. */
+    void quote(String sentence) {
+        quoted = "";
+        due("the document has '" + sentence + "'", true, Document.says(sentence));
+        quoted = "'" + sentence + "' ";
+    }
+
+    void legal(String text, int campaigns) {
+        AdMarketplace x = new AdMarketplace();
+        due("load of '" + text + "'", campaigns, load(x, text));
+        due("kind of '" + text + "'", 0, x.errorKind());
+        due("position of '" + text + "'", -1, x.errorPosition());
+    }
+
+    void bad(String text, int kind, int position) {
+        AdMarketplace x = new AdMarketplace();
+        due("load of '" + text + "'", -3, load(x, text));
+        due("kind of '" + text + "'", kind, x.errorKind());
+        due("position of '" + text + "'", position, x.errorPosition());
     }
 
     void index(String what, Call call) {

@@ -143,17 +143,11 @@ final class TextTest {
     }
 
     private static void legal(String text, int campaigns) {
-        AdMarketplace x = new AdMarketplace();
-        CHECK.due("load of '" + text + "'", campaigns, Check.load(x, text));
-        CHECK.due("kind of '" + text + "'", 0, x.errorKind());
-        CHECK.due("position of '" + text + "'", -1, x.errorPosition());
+        CHECK.legal(text, campaigns);
     }
 
     private static void bad(String text, int kind, int position) {
-        AdMarketplace x = new AdMarketplace();
-        CHECK.due("load of '" + text + "'", -3, Check.load(x, text));
-        CHECK.due("kind of '" + text + "'", kind, x.errorKind());
-        CHECK.due("position of '" + text + "'", position, x.errorPosition());
+        CHECK.bad(text, kind, position);
     }
 
     private static void legalTexts() {
