@@ -12,6 +12,7 @@ final class ConversionEdgeTest {
         oneImpression();
         manyImpressions();
         noImpression();
+        inPlaceOfAnUndoneOne();
         CHECK.end();
     }
 
@@ -132,5 +133,29 @@ final class ConversionEdgeTest {
         credits(x, 0, 0.0, 0.0, 0.0);
         credits(x, 1, 0.0, 0.0, 0.0);
         CHECK.due("unattributed", 9999, x.unattributed());
+    }
+
+    /** Nothing of a conversion that was undone is left in the one that is recorded in its place. */
+    private static void inPlaceOfAnUndoneOne() {
+        CHECK.quote("Every successful edit can be undone.");
+        AdMarketplace x = Check.open(TWO);
+        x.request(0, 0, 2);
+        x.request(1, 0, 1);
+        x.convert(0, 100);
+        x.undo();
+        CHECK.due("another user, without impressions", -1, x.convert(2, 7));
+        CHECK.due("unattributed", 7, x.unattributed());
+        credits(x, 0, 0.0, 0.0, 0.0);
+        credits(x, 1, 0.0, 0.0, 0.0);
+        x.undo();
+        x.convert(0, 100);
+        x.undo();
+        CHECK.due("another user, with one impression", 0, x.convert(1, 5));
+        CHECK.due("nothing is unattributed", 0, x.unattributed());
+        credits(x, 0, 5.0, 5.0, 5.0);
+        credits(x, 1, 0.0, 0.0, 0.0);
+        Check.load(x, TWO);
+        CHECK.due("the same place in another text", -1, x.convert(1, 3));
+        CHECK.due("unattributed in another text", 3, x.unattributed());
     }
 }

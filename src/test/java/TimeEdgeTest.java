@@ -15,6 +15,7 @@ final class TimeEdgeTest {
         notBelowTen();
         notAboveHundred();
         onlyEvenAndStrict();
+        eachOfEight();
         controlledByThePlanBefore();
         newDay();
         CHECK.end();
@@ -264,6 +265,31 @@ final class TimeEdgeTest {
         x.pass(5);
         CHECK.due("fast from then on", 100, x.multiplier(1));
         CHECK.due("strict still", 40, x.multiplier(2));
+    }
+
+    private static void eachOfEight() {
+        StringBuilder text = new StringBuilder("day 999;slots 100 100 100 100;tag t 5;");
+        for (int i = 0; i < 8; i++) {
+            text.append("campaign ").append((char) ('a' + i)).append(" 5 99 9 9 any;pace ").append((char) ('a' + i)).append(" even;");
+        }
+        AdMarketplace x = Check.open(text.toString());
+        for (int c = 7; c >= 4; c--) {
+            x.pause(c);
+        }
+        x.request(0, 0, 4);
+        x.pass(1);
+        for (int c = 0; c < 8; c++) {
+            CHECK.due("campaign " + c + " of eight", c < 4 ? 90 : 100, x.multiplier(c));
+        }
+        for (int c = 4; c < 8; c++) {
+            x.resume(c);
+            x.pause(c - 4);
+        }
+        x.request(0, 0, 4);
+        x.pass(3);
+        for (int c = 0; c < 8; c++) {
+            CHECK.due("campaign " + c + " of eight, three ticks later", c < 4 ? 60 : 70, x.multiplier(c));
+        }
     }
 
     /** The plan of the tick that passes counts, not that of the tick to come. */
