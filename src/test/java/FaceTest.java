@@ -4,25 +4,34 @@ import java.lang.reflect.Method;
 import java.lang.reflect.Modifier;
 import java.util.Arrays;
 import java.util.List;
+import java.util.Map;
 import java.util.Set;
 import java.util.TreeSet;
 import java.util.stream.Collectors;
 
 /** The public face: every constant, constructor and method of the document, and no other visible member. */
 final class FaceTest {
+    /** Behind the parameters stand the exceptions that the call declares, by the short names of EXCEPTIONS. */
     private static final String[] FACE = {
-        "int feed(int,int,int,int,int)", "int load(int)", "int errorKind()", "int errorPosition()",
-        "int campaigns()", "int tags()", "int slots()", "int floor(int)", "int bid(int)", "int effectiveBid(int)",
-        "int multiplier(int)", "int budget(int)", "int spent(int)", "int plan(int)", "int mode(int)", "int tick()",
-        "int refusal(int,int,int)", "int ranked(int,int,int)", "int winner(int,int,int)", "int price(int,int,int)",
-        "int leastBid(int,int,int,int)", "int bestFloor(int,int,int)", "int revenueAfter(int,int,int)",
-        "int multiplierAfter(int,int,int,int)", "int bestMode(int,int,int,int)", "int request(int,int,int)",
-        "int pass(int)", "int convert(int,int)", "int pause(int)", "int resume(int)", "int setBid(int,int)",
-        "int setBudget(int,int)", "int setMode(int,int)", "int setFloor(int,int)", "int undo()", "int impressions()",
-        "int impression(int,int)", "int revenue()", "int reach(int)", "double frequency(int)", "int recent(int,int)",
-        "int topUser()", "double meanPrice(int)", "int conversions()", "double credit(int,int)", "int unattributed()",
-        "int write(int)", "char written(int)",
+        "int feed(int,int,int,int,int)", "int load(int) Argument", "int errorKind()", "int errorPosition()",
+        "int campaigns()", "int tags()", "int slots()", "int floor(int) Index", "int bid(int) Index",
+        "int effectiveBid(int) Index", "int multiplier(int) Index", "int budget(int) Index", "int spent(int) Index",
+        "int plan(int) Index", "int mode(int) Index", "int tick()", "int refusal(int,int,int) Index Argument",
+        "int ranked(int,int,int) Index Argument", "int winner(int,int,int) Index Argument",
+        "int price(int,int,int) Index Argument", "int leastBid(int,int,int,int) Index Argument",
+        "int bestFloor(int,int,int) Index Argument", "int revenueAfter(int,int,int) Index Argument",
+        "int multiplierAfter(int,int,int,int) Index Argument", "int bestMode(int,int,int,int) Index Argument",
+        "int request(int,int,int) Index Argument State", "int pass(int) Argument State",
+        "int convert(int,int) Argument State", "int pause(int) Index State", "int resume(int) Index State",
+        "int setBid(int,int) Index Argument", "int setBudget(int,int) Index Argument State",
+        "int setMode(int,int) Index Argument", "int setFloor(int,int) Index Argument", "int undo()",
+        "int impressions()", "int impression(int,int) Index Argument", "int revenue()", "int reach(int) Index",
+        "double frequency(int) Index", "int recent(int,int) Index Argument", "int topUser()",
+        "double meanPrice(int) Argument", "int conversions()", "double credit(int,int) Index Argument",
+        "int unattributed()", "int write(int) Index", "char written(int) Index",
     };
+    private static final Map<Class<?>, String> EXCEPTIONS = Map.of(IndexOutOfBoundsException.class, " Index",
+        IllegalArgumentException.class, " Argument", IllegalStateException.class, " State");
 
     public static void main(String[] args) {
         Check check = new Check("FaceTest");
@@ -48,7 +57,8 @@ final class FaceTest {
 
     private static String signature(Method m) {
         return m.getReturnType() + " " + m.getName() + Arrays.stream(m.getParameterTypes())
-            .map(Class::getName).collect(Collectors.joining(",", "(", ")"));
+            .map(Class::getName).collect(Collectors.joining(",", "(", ")"))
+            + Arrays.stream(m.getExceptionTypes()).map(e -> EXCEPTIONS.getOrDefault(e, " " + e)).collect(Collectors.joining());
     }
 
     private static Set<String> visibleFields() {

@@ -1,8 +1,12 @@
 import java.io.IOException;
 import java.nio.file.Files;
 import java.nio.file.Path;
+import java.util.ArrayList;
 import java.util.List;
+import java.util.Map;
 import java.util.Set;
+import java.util.TreeMap;
+import java.util.TreeSet;
 import java.util.regex.Matcher;
 import java.util.regex.Pattern;
 
@@ -33,6 +37,7 @@ final class LanguageTest {
         classes(code);
         methods(code);
         throwsOutsideConstructors(code);
+        calls(code);
         CHECK.end();
     }
 
@@ -81,5 +86,45 @@ final class LanguageTest {
             CHECK.due("constructor of " + m.group(3) + " throws", false, m.group().contains("throw "));
         }
         CHECK.due("constructors were found", true, count > 0);
+    }
+
+    /** Methods of the same name are taken as one, so a chain of calls may seem longer here than it is, never shorter. */
+    private static void calls(String code) {
+        Map<String, Set<String>> called = new TreeMap<>();
+        Matcher head = Pattern.compile("\\b(?!(?:if|for|while|switch)\\b)(\\w+)\\([^()]*\\)\\s*(throws [\\w, \\n]+)?\\{").matcher(code);
+        while (head.find()) {
+            Matcher call = Pattern.compile("\\b(?!(?:if|for|while|switch|return)\\b)(\\w+)\\(").matcher(body(code, head.end()));
+            Set<String> names = called.computeIfAbsent(head.group(1), name -> new TreeSet<>());
+            while (call.find()) {
+                names.add(call.group(1));
+            }
+        }
+        CHECK.due("methods and constructors were found", true, called.size() > 100);
+        for (String name : called.keySet()) {
+            List<String> chain = longest(name, called, List.of());
+            CHECK.due("calls eight deep at most: " + chain, true, chain.size() <= 8);
+        }
+    }
+
+    private static String body(String code, int start) {
+        int open = 1;
+        int end = start;
+        while (open > 0) {
+            open += code.charAt(end) == '{' ? 1 : code.charAt(end) == '}' ? -1 : 0;
+            end++;
+        }
+        return code.substring(start, end);
+    }
+
+    private static List<String> longest(String name, Map<String, Set<String>> called, List<String> before) {
+        List<String> chain = new ArrayList<>(before);
+        chain.add(name);
+        CHECK.due("recursion: " + chain, false, before.contains(name));
+        List<String> best = chain;
+        for (String next : before.contains(name) ? Set.<String>of() : called.getOrDefault(name, Set.of())) {
+            List<String> longer = longest(next, called, chain);
+            best = longer.size() > best.size() ? longer : best;
+        }
+        return best;
     }
 }
